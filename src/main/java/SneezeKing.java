@@ -20,11 +20,12 @@ public final class SneezeKing {
     private int councilsRead;
 
     public SneezeKing() {
+        Council council = new Council();
         page = new Page();
-        now = new Council();
+        now = council;
         kept = new Council();
-        prospect = new Prospect(now);
-        lived = new Years(now);
+        prospect = new Prospect(council);
+        lived = new Years(council);
     }
 
     // ---- the council

@@ -380,6 +380,7 @@ public final class PromiseTest {
         due("count(4)", x.count(4), 10);
         SneezeKing s = of("s10,s11,s12");
         due("hour(1) of stiflers", s.hour(1), 1);
+        due("hour(2) of stiflers", s.hour(2), 2);
         due("hour(4) of stiflers", s.hour(4), 0);
         SneezeKing f = of("f00,p00,c03");
         due("hour(1) in an even hour", f.hour(1), 0);
@@ -555,6 +556,16 @@ public final class PromiseTest {
             due("saying(" + law + ", 0)", x.saying(law, 0), law == 2 ? 0 : law);
         }
         due("saying(2, 2)", x.saying(2, 2), 0);
+        // By 0 now it holds by 9 of 10, by 1 as well, by 3 not at all.
+        SneezeKing later = of("p92,p00,p00");
+        due("saying(2, 1) of a law said later", later.saying(2, 1), 0);
+        // While 0 and 3 hold, 2 surely holds by 2 now, by 5 if he sneezes then, by 0 never.
+        SneezeKing rising = of("p90,p00,p00");
+        rising.hour(1);
+        rising.bribe(0, 3);
+        rising.hour(1);
+        rising.bribe(0, 2);
+        due("saying(2, 1) with a lesser one behind the best", rising.saying(2, 1), 2);
         due("saying(1, 1)", x.saying(1, 1), 1);
         x.bribe(0, 0);
         x.hour(1);
@@ -727,9 +738,15 @@ public final class PromiseTest {
         due("years(1, 0, 10) behind an hour", x.years(1, 0, 10), 1);
         due("years(1, MAX, 2)", x.years(1, MAX, 2), seedBehind(MAX, 3));
         due("years(60, 7, 2)", x.years(60, 7, 2), seedBehind(7, 180));
-        SneezeKing banned = of("p93,p90,p90");
+        SneezeKing banned = of("p93,p00,p00");
+        due("years(9, 1, 0) until law 3 holds", banned.years(9, 1, 0), 1);
         banned.hour(1);
         due("years(9, 1, 0) while law 3 holds", banned.years(9, 1, 0), 0);
+        due("years(9, 1, 1) while law 3 holds", banned.years(9, 1, 1), 8);
+        SneezeKing held = of("p91,p00,p00");
+        held.hour(1);
+        held.bribe(0, 0);
+        due("years(9, 1, 1) with a law that held", held.years(9, 1, 1), 3);
         due("years(9, 1, 2) while law 3 holds", banned.years(9, 1, 2), seedBehind(1, 27));
         int[][] outside = {{0, 0, 0}, {61, 0, 0}, {1, -1, 0}, {1, 0, -1}, {1, 0, 3}, {1, 0, 9}, {1, 0, 15}, {MIN, MIN, MIN}};
         for (int[] o : outside) {
@@ -762,8 +779,10 @@ public final class PromiseTest {
         x.hour(1);
         x.draught(2);
         x.pepper(true);
-        x.book(7);
+        x.book(1);
         x.book(NONE);
+        long ways = x.fits();
+        due("whether all fits", ways > 0 ? 1 : 0, 1);
         due("image()", x.image(), 1);
         long before = x.digest();
         x.hour(2);
@@ -773,8 +792,9 @@ public final class PromiseTest {
         x.nose(0, 9);
         x.bribe(1, 5);
         x.forget();
-        x.book(3);
+        x.book(36);
         due("restore()", x.restore(), 1);
+        due("fits()", x.fits(), ways);
         due("digest()", x.digest(), before);
         due("about(0, 1)", x.about(0, 1), 5);
         due("about(1, 2)", x.about(1, 2), 1);
