@@ -82,6 +82,12 @@ public final class FormTest {
             same("uses " + word, code.matches(sought), false);
         }
         same("characters above 126", text.chars().anyMatch(sign -> sign > 126), false);
-        same("imports", code.replaceAll("(?s).*?import ([\\w.]+);.*", "$1"), "java.util.Arrays");
+        Set<String> imports = new TreeSet<>();
+        for (String line : code.split("\n")) {
+            if (line.startsWith("import ")) {
+                imports.add(line);
+            }
+        }
+        same("imports", imports, Set.of("import java.util.Arrays;"));
     }
 }
