@@ -5,7 +5,9 @@ import java.lang.reflect.Method;
 import java.lang.reflect.Modifier;
 import java.nio.file.Files;
 import java.nio.file.Path;
+import java.util.ArrayList;
 import java.util.Arrays;
+import java.util.List;
 import java.util.Set;
 import java.util.TreeSet;
 
@@ -29,6 +31,8 @@ public final class FormTest {
     public static void main(String[] args) throws IOException {
         face();
         members();
+        ownMethods();
+        sizes();
         source(Files.readString(Path.of("src/main/java/SneezeKing.java")));
         System.out.println(wrong == 0 ? "the form is kept" : wrong + " faults of form");
         if (wrong != 0) {
@@ -71,6 +75,40 @@ public final class FormTest {
         for (Class<?> inner : SneezeKing.class.getDeclaredClasses()) {
             same("static " + inner.getName(), Modifier.isStatic(inner.getModifiers()), true);
             same("not public " + inner.getName(), Modifier.isPublic(inner.getModifiers()), false);
+        }
+    }
+
+    private static List<Class<?>> classes() {
+        List<Class<?>> all = new ArrayList<>(Arrays.asList(SneezeKing.class.getDeclaredClasses()));
+        all.add(SneezeKing.class);
+        return all;
+    }
+
+    private static void ownMethods() {
+        Set<String> faceNames = new TreeSet<>();
+        for (Method method : SneezeKing.class.getMethods()) {
+            faceNames.add(method.getName());
+        }
+        for (Class<?> one : classes()) {
+            for (Method method : one.getDeclaredMethods()) {
+                boolean own = Modifier.isPrivate(method.getModifiers());
+                String name = one.getName() + "." + method.getName();
+                same("a private method with a name of the face, " + name, own && faceNames.contains(method.getName()), false);
+                same("more than seven parameters, " + name, method.getParameterCount() > 7, false);
+            }
+        }
+    }
+
+    private static void sizes() {
+        same("more than twelve classes", classes().size() > 12, false);
+        for (Class<?> one : classes()) {
+            int fields = 0;
+            for (Field field : one.getDeclaredFields()) {
+                boolean fixed = Modifier.isStatic(field.getModifiers());
+                fields += fixed ? 0 : 1;
+                same("a static field that is not final, " + field, fixed && !Modifier.isFinal(field.getModifiers()), false);
+            }
+            same("more than twenty fields in " + one.getName(), fields > 20, false);
         }
     }
 

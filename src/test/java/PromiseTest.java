@@ -1,11 +1,5 @@
 /** Each promise by examples worked out by hand: ordinary calls, edges, refusals. */
-public final class PromiseTest {
-    private static final int NONE = -1, UNKNOWN = -101, OUTSIDE = -102, STATE = -103, FULL = -104;
-    private static final int MIN = Integer.MIN_VALUE, MAX = Integer.MAX_VALUE;
-
-    private static int wrong = 0;
-    private static String promise = "";
-
+public final class PromiseTest extends Checks {
     public static void main(String[] args) {
         constants();
         aNewObject();
@@ -36,34 +30,11 @@ public final class PromiseTest {
         restore();
         count();
         digest();
-        System.out.println(wrong == 0 ? "every promise is kept" : wrong + " answers are wrong");
-        if (wrong != 0) {
-            System.exit(1);
-        }
-    }
-
-    private static void due(String call, long got, long want) {
-        if (got != want) {
-            wrong++;
-            System.out.println(promise + ": " + call + " answered " + got + ", due is " + want);
-        }
-    }
-
-    private static void tell(SneezeKing x, String text) {
-        for (int i = 0; i < text.length(); i++) {
-            x.letter(text.charAt(i));
-        }
-    }
-
-    private static SneezeKing of(String text) {
-        SneezeKing x = new SneezeKing();
-        tell(x, text);
-        due("council() of " + text, x.council(), (text.length() + 1) / 4);
-        return x;
+        end();
     }
 
     private static void constants() {
-        promise = "the face";
+        sentence("the face");
         due("NONE", SneezeKing.NONE, -1);
         due("UNKNOWN", SneezeKing.UNKNOWN, -101);
         due("OUTSIDE", SneezeKing.OUTSIDE, -102);
@@ -72,7 +43,7 @@ public final class PromiseTest {
     }
 
     private static void aNewObject() {
-        promise = "1 a new object";
+        sentence("1 a new object");
         SneezeKing x = new SneezeKing();
         long[] counts = {0, NONE, 0, 0, 0, 0, 0, 0, 0};
         for (int what = 0; what < counts.length; what++) {
@@ -98,7 +69,7 @@ public final class PromiseTest {
     }
 
     private static void letter() {
-        promise = "2 letter";
+        sentence("2 letter");
         SneezeKing x = new SneezeKing();
         int[] refused = {0, -1, 127, 128, MIN, MAX};
         for (int code : refused) {
@@ -116,7 +87,7 @@ public final class PromiseTest {
     }
 
     private static void blank() {
-        promise = "3 blank";
+        sentence("3 blank");
         SneezeKing x = new SneezeKing();
         tell(x, "p5x");
         due("blank()", x.blank(), 3);
@@ -134,7 +105,7 @@ public final class PromiseTest {
     }
 
     private static void fault() {
-        promise = "4 fault";
+        sentence("4 fault");
         faultOf("", 0);
         faultOf("x", 0);
         faultOf("P00", 0);
@@ -175,7 +146,7 @@ public final class PromiseTest {
     }
 
     private static void council() {
-        promise = "5 council";
+        sentence("5 council");
         noCouncil("");
         noCouncil("p00");
         noCouncil("p00,p00");
@@ -219,7 +190,7 @@ public final class PromiseTest {
     }
 
     private static void about() {
-        promise = "6 about";
+        sentence("6 about");
         SneezeKing x = of("p10,s21,f32,d43,c95");
         for (int councillor = 0; councillor < 5; councillor++) {
             due("about(" + councillor + ", 0)", x.about(councillor, 0), councillor);
@@ -249,7 +220,7 @@ public final class PromiseTest {
     }
 
     private static void tenths() {
-        promise = "6 about, tenths";
+        sentence("6 about, tenths");
         SneezeKing x = of("p10,s23,f32,d45,c45");
         tenthsOf(x, 1, 2, 4, 4, 5);
         x.pepper(true);
@@ -277,7 +248,7 @@ public final class PromiseTest {
     }
 
     private static void as() {
-        promise = "7 as";
+        sentence("7 as");
         SneezeKing x = of("p10,s21,f32,d43,c95");
         boolean[][] is = {
             {true, false, false, false, false},
@@ -299,7 +270,7 @@ public final class PromiseTest {
     }
 
     private static void nose() {
-        promise = "8 nose";
+        sentence("8 nose");
         SneezeKing x = of("p10,s21,f32");
         due("nose(1, 9)", x.nose(1, 9), 2);
         due("nose(1, 0)", x.nose(1, 0), 9);
@@ -312,7 +283,7 @@ public final class PromiseTest {
     }
 
     private static void bribe() {
-        promise = "9 bribe";
+        sentence("9 bribe");
         SneezeKing x = of("p10,s21,f32");
         due("bribe(0, 5)", x.bribe(0, 5), 0);
         due("bribe(0, 4)", x.bribe(0, 4), 5);
@@ -326,7 +297,7 @@ public final class PromiseTest {
     }
 
     private static void draught() {
-        promise = "10 draught";
+        sentence("10 draught");
         SneezeKing none = new SneezeKing();
         due("draught(NONE) without a council", none.draught(NONE), STATE);
         due("draught(0) without a council", none.draught(0), UNKNOWN);
@@ -341,7 +312,7 @@ public final class PromiseTest {
     }
 
     private static void pepper() {
-        promise = "11 pepper";
+        sentence("11 pepper");
         SneezeKing none = new SneezeKing();
         due("pepper(true) without a council", none.pepper(true), STATE);
         due("count(2)", none.count(2), 0);
@@ -354,7 +325,7 @@ public final class PromiseTest {
     }
 
     private static void hour() {
-        promise = "12 hour";
+        sentence("12 hour");
         SneezeKing none = new SneezeKing();
         due("hour(0) without a council", none.hour(0), STATE);
         due("hour(1) without a council", none.hour(1), OUTSIDE);
@@ -399,7 +370,7 @@ public final class PromiseTest {
     }
 
     private static void lawsThatAreSaid() {
-        promise = "13 laws";
+        sentence("13 laws");
         SneezeKing x = of("c90,p00,p00");
         lawSaid(x, 2, 0);
         lawSaid(x, 0, 1);
@@ -426,7 +397,7 @@ public final class PromiseTest {
     }
 
     private static void king() {
-        promise = "14 king";
+        sentence("14 king");
         SneezeKing none = new SneezeKing();
         due("king(0, 0) without a council", none.king(0, 0), UNKNOWN);
         due("king(NONE, 2) without a council", none.king(NONE, 2), OUTSIDE);
@@ -472,7 +443,7 @@ public final class PromiseTest {
     }
 
     private static void holds() {
-        promise = "15 holds";
+        sentence("15 holds");
         SneezeKing none = new SneezeKing();
         due("holds(0, 0, 0) without a council", none.holds(0, 0, 0), STATE);
         due("holds(6, 0, 0) without a council", none.holds(6, 0, 0), OUTSIDE);
@@ -524,7 +495,7 @@ public final class PromiseTest {
     }
 
     private static void window() {
-        promise = "16 window";
+        sentence("16 window");
         windowIs("p50,p50,p50", 0, 0);
         windowIs("p50,p50,p50", 2, 2);
         windowIs("p90,p50,p50", 0, NONE);
@@ -547,7 +518,7 @@ public final class PromiseTest {
     }
 
     private static void saying() {
-        promise = "17 saying";
+        sentence("17 saying");
         SneezeKing none = new SneezeKing();
         due("saying(0, 0) without a council", none.saying(0, 0), STATE);
         due("saying(0, 3) without a council", none.saying(0, 3), OUTSIDE);
@@ -592,7 +563,7 @@ public final class PromiseTest {
     }
 
     private static void statutes() {
-        promise = "18 statutes";
+        sentence("18 statutes");
         SneezeKing none = new SneezeKing();
         due("statutes(0, 0) without a council", none.statutes(0, 0), STATE);
         due("statutes(64, 0) without a council", none.statutes(64, 0), OUTSIDE);
@@ -626,7 +597,7 @@ public final class PromiseTest {
     }
 
     private static void book() {
-        promise = "19 book";
+        sentence("19 book");
         SneezeKing none = new SneezeKing();
         due("book(0) without a council", none.book(0), 1);
         SneezeKing x = of("p50,p51,p00");
@@ -644,7 +615,7 @@ public final class PromiseTest {
     }
 
     private static void forget() {
-        promise = "20 forget";
+        sentence("20 forget");
         SneezeKing x = of("p50,p51,p00");
         x.book(63);
         x.book(NONE);
@@ -656,7 +627,7 @@ public final class PromiseTest {
     }
 
     private static void fits() {
-        promise = "21 fits";
+        sentence("21 fits");
         SneezeKing none = new SneezeKing();
         none.book(NONE);
         due("fits() without a council", none.fits(), STATE);
@@ -693,7 +664,7 @@ public final class PromiseTest {
     }
 
     private static void sneezed() {
-        promise = "22 sneezed";
+        sentence("22 sneezed");
         SneezeKing x = of("p50,p51,p03");
         due("sneezed(0, 0) of no hours", x.sneezed(0, 0), UNKNOWN);
         x.book(NONE);
@@ -714,7 +685,7 @@ public final class PromiseTest {
     }
 
     private static void years() {
-        promise = "23 years";
+        sentence("23 years");
         SneezeKing none = new SneezeKing();
         due("years(1, 0, 0) without a council", none.years(1, 0, 0), STATE);
         due("years(0, 0, 0) without a council", none.years(0, 0, 0), OUTSIDE);
@@ -762,7 +733,7 @@ public final class PromiseTest {
     }
 
     private static void image() {
-        promise = "24 image";
+        sentence("24 image");
         SneezeKing x = of("p50,p51,p03");
         due("image()", x.image(), 0);
         x.hour(1);
@@ -773,7 +744,7 @@ public final class PromiseTest {
     }
 
     private static void restore() {
-        promise = "25 restore";
+        sentence("25 restore");
         SneezeKing x = of("p50,p51,p53");
         due("restore() of none", x.restore(), STATE);
         x.hour(1);
@@ -823,7 +794,7 @@ public final class PromiseTest {
     }
 
     private static void count() {
-        promise = "26 count";
+        sentence("26 count");
         SneezeKing x = of("p50,p51,p53,c95");
         x.hour(1);
         x.hour(2);
@@ -873,7 +844,7 @@ public final class PromiseTest {
     }
 
     private static void digest() {
-        promise = "27 digest";
+        sentence("27 digest");
         SneezeKing x = new SneezeKing();
         due("digest() of a new one", x.digest(), ((809L * 31 * 31) * 31 - 1) * 27512614111L);
         tell(x, "p5?~");
